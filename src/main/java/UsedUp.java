@@ -58,17 +58,12 @@ public final class UsedUp {
     private final Meter meter = new Meter();
     private final Locks locks = new Locks();
     private final Asks asks = new Asks();
+    private final Planner planner = new Planner(meter, asks);
     private boolean hasProgram = false;
     private final int[] caps = new int[MAX_PLACES];
-    private final int[] trialCaps = new int[MAX_PLACES];
-    private final long[] needs = new long[MAX_PLACES];
     private final int[] latest = new int[NAMES];
     private boolean hasLatest = false;
     private final int[] given = new int[NAMES];
-    /** The ASK that the latest trial of BUDGETS failed by: most others fail by it too. */
-    private final int[] hardest = new int[NAMES];
-    private final int[] ordinaries = new int[MAX_ORDINARY * NAMES];
-    private int ordinaryCount = 0;
     private int faultPlace = NONE;
     private int refusal = 0;
 
@@ -210,16 +205,15 @@ public final class UsedUp {
         if (!areNumbers(a, b, c, d)) {
             return refuse(BAD_NUMBER);
         }
-        if (ordinaryCount >= MAX_ORDINARY) {
+        if (planner.ordinaryCount >= MAX_ORDINARY) {
             return refuse(NO_SPACE);
         }
-        putRow(ordinaries, ordinaryCount * NAMES, a, b, c, d);
-        ordinaryCount++;
-        return accept(ordinaryCount);
+        planner.addOrdinary(a, b, c, d);
+        return accept(planner.ordinaryCount);
     }
 
     public long need(int place) {
-        return isPlace(place) ? needOf(place) : NONE;
+        return isPlace(place) ? planner.needOf(script, place) : NONE;
     }
 
     public int budgets(long bound) {
@@ -229,11 +223,11 @@ public final class UsedUp {
         if (!hasProgram) {
             return refuse(BAD_TEXT);
         }
-        int chosen = fewest(bound);
+        int chosen = planner.fewest(script, bound);
         if (chosen == NONE) {
             return refuse(BAD_TEXT);
         }
-        capChosen(chosen, caps);
+        planner.capChosen(script, chosen, caps);
         return accept(Integer.bitCount(chosen));
     }
 
@@ -255,7 +249,7 @@ public final class UsedUp {
             case 1:
                 return script.steps;
             case 2:
-                return ordinaryCount;
+                return planner.ordinaryCount;
             case 3:
                 return capCount();
             case 4:
@@ -307,78 +301,6 @@ public final class UsedUp {
             }
         }
         return found;
-    }
-
-    private long needOf(int place) {
-        int step = at(script.placeSteps, place);
-        long most = 0;
-        for (int i = 0; i < ordinaryCount && i < MAX_ORDINARY; i++) {
-            copyRow(ordinaries, i * NAMES, given);
-            most = Math.max(most, script.amountOf(step, given));
-        }
-        return most;
-    }
-
-    /** The bit of a PLACE among chosen ones: of two choices of as many, the first as rows is the greater number. */
-    private int bitOf(int place) {
-        return 1 << (script.places - 1 - place);
-    }
-
-    /** The BUDGETS' PLACES as bits; NONE if not even all keep below the bound. */
-    private int fewest(long bound) {
-        int able = ablePlaces();
-        putRow(hardest, 0, 0, 0, 0, 0);
-        int total = asks.prepare(script);
-        // A CAP never makes an ASK's TIME greater, so where all together fail, any fewer fail too.
-        if (!keepsBelow(bound, able, total)) {
-            return NONE;
-        }
-        for (int many = 0; many <= script.places; many++) {
-            for (int chosen = (1 << script.places) - 1; chosen >= 0; chosen--) {
-                boolean fits = Integer.bitCount(chosen) == many && (chosen & ~able) == 0;
-                if (fits && keepsBelow(bound, chosen, total)) {
-                    return chosen;
-                }
-            }
-        }
-        return NONE;
-    }
-
-    /** Tells the NEEDS of all PLACES to the table of needs, and which of them can be CAPS. */
-    private int ablePlaces() {
-        int able = 0;
-        for (int place = 0; place < script.places; place++) {
-            long most = needOf(place);
-            put(needs, place, most);
-            if (most <= MAX_CAP) {
-                able |= bitOf(place);
-            }
-        }
-        return able;
-    }
-
-    private boolean keepsBelow(long bound, int chosen, int total) {
-        capChosen(chosen, trialCaps);
-        if (meter.brings(TIME, script, trialCaps, hardest) > bound) {
-            return false;
-        }
-        for (int i = 0; i < total && i < MAX_ASKS; i++) {
-            asks.turnTo(i);
-            if (meter.brings(TIME, script, trialCaps, asks.numbers) > bound) {
-                copyRow(asks.numbers, 0, hardest);
-                return false;
-            }
-        }
-        return true;
-    }
-
-    private void capChosen(int chosen, int[] into) {
-        fillWith(into, NONE);
-        for (int place = 0; place < script.places; place++) {
-            if ((chosen & bitOf(place)) != 0) {
-                put(into, place, (int) at(needs, place));
-            }
-        }
     }
 
     private static boolean within(int number, int most) {
@@ -643,15 +565,15 @@ public final class UsedUp {
         }
 
         long amountOf(int step, int[] ask) {
-            int end = Math.min(at(amountEnds, step), MAX_FACTORS);
+            int from = Math.max(at(amountStarts, step), 0);
+            int behind = Math.min(at(amountEnds, step), MAX_FACTORS);
             long all = 0;
             long term = 0;
-            for (int i = Math.max(at(amountStarts, step), 0); i < end; i++) {
-                int kind = at(factorKinds, i);
-                int value = at(factorValues, i);
-                int number = kind == PLAIN ? value : at(ask, value);
+            for (int i = from; i < behind; i++) {
+                int kind = factorKinds[i];
+                int number = kind == PLAIN ? factorValues[i] : at(ask, factorValues[i]);
                 long factor = kind == DOUBLED ? powerOfTwo(number) : number;
-                if (at(factorOpens, i) == 1) {
+                if (factorOpens[i] == 1) {
                     all = sum(all, term);
                     term = factor;
                 } else {
@@ -885,28 +807,39 @@ public final class UsedUp {
         }
 
         private void findFigures(Script script, int[] caps, int[] ask) {
-            for (int step = 0; step < script.steps; step++) {
-                int kind = at(script.kinds, step);
-                long figure = 0;
-                if (kind == IF) {
-                    figure = script.holds(step, ask) ? FIRST_BLOCK : ELSE_BLOCK;
-                } else {
-                    figure = script.amountOf(step, ask);
+            for (int step = 0; step < script.steps && step < MAX_STEPS; step++) {
+                inside[step] = 0;
+                switch (script.kinds[step]) {
+                    case IF:
+                        figures[step] = script.holds(step, ask) ? FIRST_BLOCK : ELSE_BLOCK;
+                        break;
+                    case TIMES:
+                        int cap = at(caps, script.values[step]);
+                        long turns = script.amountOf(step, ask);
+                        figures[step] = cap == NONE ? turns : Math.min(turns, cap);
+                        break;
+                    case SPEND:
+                    case HOLD:
+                        figures[step] = script.amountOf(step, ask);
+                        break;
+                    default:
+                        figures[step] = 0;
+                        break;
                 }
-                int cap = kind == TIMES ? at(caps, at(script.values, step)) : NONE;
-                put(figures, step, cap == NONE ? figure : Math.min(figure, cap));
-                put(inside, step, 0);
             }
         }
 
         /** Backwards, so that each STEP comes behind all that stand in it. */
         private void addUp(int sort, Script script, int part) {
-            int first = at(script.partStarts, part);
+            int first = Math.max(at(script.partStarts, part), 0);
+            int behind = Math.min(at(script.partStarts, part + 1), MAX_STEPS);
             long all = 0;
-            for (int step = at(script.partStarts, part + 1) - 1; step >= first && step >= 0; step--) {
-                long brought = sort == TIME ? timeOf(script, step) : roomOf(script, step);
-                put(whole, step, brought);
-                int parent = at(script.parents, step);
+            for (int step = behind - 1; step >= first; step--) {
+                int kind = script.kinds[step];
+                long inner = kind == CALL ? at(partBrings, script.values[step]) : inside[step];
+                long brought = sort == TIME ? timeOf(kind, figures[step], inner) : roomOf(kind, figures[step], inner);
+                whole[step] = brought;
+                int parent = script.parents[step];
                 if (parent == NONE) {
                     all = joined(sort, all, brought);
                 } else if (isGoneInto(script, step, parent)) {
@@ -924,33 +857,30 @@ public final class UsedUp {
             return sort == TIME ? sum(x, y) : Math.max(x, y);
         }
 
-        private long timeOf(Script script, int step) {
-            switch (at(script.kinds, step)) {
+        private static long timeOf(int kind, long figure, long inner) {
+            switch (kind) {
                 case SPEND:
-                    return at(figures, step);
+                    return figure;
                 case TIMES:
-                    return product(at(figures, step), sum(at(inside, step), 1));
+                    return product(figure, sum(inner, 1));
                 case CALL:
-                    return sum(at(partBrings, at(script.values, step)), 1);
                 case IF:
-                    return sum(at(inside, step), 1);
+                    return sum(inner, 1);
                 default:
-                    return at(inside, step);
+                    return inner;
             }
         }
 
-        private long roomOf(Script script, int step) {
-            switch (at(script.kinds, step)) {
+        private static long roomOf(int kind, long figure, long inner) {
+            switch (kind) {
                 case SPEND:
                     return 0;
                 case TIMES:
-                    return at(figures, step) == 0 ? 0 : at(inside, step);
+                    return figure == 0 ? 0 : inner;
                 case HOLD:
-                    return sum(at(figures, step), at(inside, step));
-                case CALL:
-                    return at(partBrings, at(script.values, step));
+                    return sum(figure, inner);
                 default:
-                    return at(inside, step);
+                    return inner;
             }
         }
 
@@ -984,6 +914,114 @@ public final class UsedUp {
                 return product(at(comings, parent), at(figures, parent));
             }
             return isGoneInto(script, step, parent) ? at(comings, parent) : 0;
+        }
+    }
+
+    /** Keeps the ORDINARY asks, and finds NEEDS and BUDGETS by them. */
+    private static final class Planner {
+        private final Meter meter;
+        private final Asks asks;
+        private final int[] ordinaries = new int[MAX_ORDINARY * NAMES];
+        int ordinaryCount = 0;
+        private final int[] ordinaryAsk = new int[NAMES];
+        private final long[] needs = new long[MAX_PLACES];
+        private final int[] trialCaps = new int[MAX_PLACES];
+        /** The ASKS that are above the bound without CAPS: with CAPS, no others can be. */
+        private final int[] risky = new int[MAX_ASKS];
+        private int riskyCount = 0;
+
+        Planner(Meter meter, Asks asks) {
+            this.meter = meter;
+            this.asks = asks;
+        }
+
+        void addOrdinary(int a, int b, int c, int d) {
+            putRow(ordinaries, ordinaryCount * NAMES, a, b, c, d);
+            ordinaryCount++;
+        }
+
+        long needOf(Script script, int place) {
+            int step = at(script.placeSteps, place);
+            long most = 0;
+            for (int i = 0; i < ordinaryCount && i < MAX_ORDINARY; i++) {
+                copyRow(ordinaries, i * NAMES, ordinaryAsk);
+                most = Math.max(most, script.amountOf(step, ordinaryAsk));
+            }
+            return most;
+        }
+
+        /** The PLACES of BUDGETS as bits; NONE if not even all keep it below the bound. */
+        int fewest(Script script, long bound) {
+            int able = findNeeds(script);
+            findRisky(script, bound);
+            // A CAP never makes an ASK's TIME greater, so where all together fail, any fewer fail too.
+            if (!keepsBelow(script, bound, able)) {
+                return NONE;
+            }
+            for (int many = 0; many <= script.places; many++) {
+                for (int chosen = (1 << script.places) - 1; chosen >= 0; chosen--) {
+                    boolean fits = Integer.bitCount(chosen) == many && (chosen & ~able) == 0;
+                    if (fits && keepsBelow(script, bound, chosen)) {
+                        return chosen;
+                    }
+                }
+            }
+            return NONE;
+        }
+
+        /** The bit of a PLACE. The first has the highest: of choices of as many, the first row is the greatest number. */
+        private static int bitOf(Script script, int place) {
+            return 1 << (script.places - 1 - place);
+        }
+
+        /** Which PLACES have a NEED that can be a CAP, as bits. */
+        private int findNeeds(Script script) {
+            int able = 0;
+            for (int place = 0; place < script.places; place++) {
+                long most = needOf(script, place);
+                put(needs, place, most);
+                if (most <= MAX_CAP) {
+                    able |= bitOf(script, place);
+                }
+            }
+            return able;
+        }
+
+        private void findRisky(Script script, long bound) {
+            riskyCount = 0;
+            fillWith(trialCaps, NONE);
+            int total = asks.prepare(script);
+            for (int i = 0; i < total && i < MAX_ASKS; i++) {
+                asks.turnTo(i);
+                if (meter.brings(TIME, script, trialCaps, asks.numbers) > bound) {
+                    put(risky, riskyCount, i);
+                    riskyCount++;
+                }
+            }
+        }
+
+        private boolean keepsBelow(Script script, long bound, int chosen) {
+            capChosen(script, chosen, trialCaps);
+            for (int i = 0; i < riskyCount && i < MAX_ASKS; i++) {
+                int one = risky[i];
+                asks.turnTo(one);
+                if (meter.brings(TIME, script, trialCaps, asks.numbers) > bound) {
+                    // To the front with it: what one choice fails by, the next most likely fails by too.
+                    risky[i] = risky[0];
+                    risky[0] = one;
+                    return false;
+                }
+            }
+            return true;
+        }
+
+        void capChosen(Script script, int chosen, int[] into) {
+            fillWith(into, NONE);
+            for (int place = 0; place < script.places; place++) {
+                if ((chosen & bitOf(script, place)) != 0) {
+                    put(into, place, (int) at(needs, place));
+                }
+            }
         }
     }
 

@@ -16,6 +16,7 @@ public final class PromiseTest {
         promise9Time();
         promise9Room();
         promise9Amounts();
+        promise9SixDefs();
         promise10();
         promise11();
         promise12();
@@ -172,6 +173,9 @@ public final class PromiseTest {
         faultAt("spend 1**2;", 8);
         faultAt("spend double 3;", 13);
         faultAt("spend doublea;", 6);
+        faultAt("spend az;", 6);
+        faultAt("spend zb;", 6);
+        faultAt("spend 19a90;", 8);
         faultAt("spend double double a;", 13);
         faultAt("spends 1;", 0);
         faultAt("Spend 1;", 0);
@@ -371,6 +375,29 @@ public final class PromiseTest {
         due.is("9 all thousands", Due.with("spend a*b*c*d;").spends(0, 1000, 1000, 1000, 999), 999000000000L);
     }
 
+    private static void promise9SixDefs() {
+        UsedUp x = Due.with("def k{times 2{lock 0{hold 1{spend 1;}}}}def j{times 2{lock 1{hold 2{call k;}}}}def i{times 2{lock 2{hold 4{call j;}}}}"
+            + "def h{times 2{lock 3{hold 8{call i;}}}}def g{times 2{lock 4{hold 16{call h;}}}}def f{times 2{lock 5{hold 32{call g;}}}}"
+            + "times a{lock 6{hold 64{call f;}}}");
+        // k: 2 * (1 + 1) = 4; each of the others twice what the one ahead brings, and 2 for it: 4, 12, 28, 60, 124, 252.
+        due.is("9 six defs", x.spends(0, 3, 0, 0, 0), 3 * (252 + 2));
+        due.is("9 room of six defs", x.spends(1, 3, 0, 0, 0), 127);
+        x.worst(0, 2);
+        long often = 2;
+        long[] once = {4, 12, 28, 60, 124, 252};
+        for (int place = 5; place >= 0; place--) {
+            due.is("13 six defs " + place, x.where(place), often * once[place]);
+            often *= 2;
+        }
+        due.is("13 six defs, last", x.where(6), 2 * 254);
+        for (int l = 0; l <= 6; l++) {
+            for (int m = 0; m <= 6; m++) {
+                due.is("17 six defs " + l + " " + m, x.ahead(l, m), l > m ? 1 : 0);
+            }
+        }
+        due.is("19 six defs", x.count(5), 6);
+    }
+
     private static void latest(UsedUp x, String what, int a, int b, int c, int d) {
         due.is(what + " a", x.ask(0), a);
         due.is(what + " b", x.ask(1), b);
@@ -407,6 +434,9 @@ public final class PromiseTest {
         UsedUp z = Due.with("if a < 1 { spend 4; } else { spend 4; } if b < 3 { spend 9; }");
         due.is("10 where less is more", z.worst(0, 9), 5 + 10);
         latest(z, "10 where less is more", 0, 0, 0, 0);
+        UsedUp tested = Due.with("if d < 4 { spend 1; } else { if a < 2 { spend 1; } else { spend 7; } }");
+        due.is("10 names that are tested only", tested.worst(0, 100), 9);
+        latest(tested, "10 names that are tested only", 2, 0, 0, 4);
         UsedUp c = Due.with("times a { spend 1; }");
         c.cap(0, 2);
         due.is("10 caps", c.worst(0, 9), 4);
