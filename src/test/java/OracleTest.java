@@ -299,7 +299,7 @@ public final class OracleTest {
     private void budgets() {
         // The oracle tries every choice with every ask, so it is asked about few asks.
         for (int k = 0; k < 4; k++) {
-            int size = upTo(2);
+            int size = upTo(in(4) ? 4 : 2);
             same("name(" + k + ", " + size + ", 1)", x.name(k, size, 1), o.name(k, size, 1));
         }
         long bound = bound(true);

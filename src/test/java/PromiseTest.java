@@ -371,6 +371,8 @@ public final class PromiseTest {
         due.is("9 just above", Due.with("spend 1000*1000*1000*1000+1;").spends(0, 0, 0, 0, 0), MUCH);
         due.is("9 much in turns", Due.with("times double a { times double a { times double a { spend double a; } } }")
             .spends(0, 1000, 0, 0, 0), MUCH);
+        due.is("9 one below much, in turns", Due.with("times 1000*1000+1 { spend 999*1000+998; }").spends(0, 0, 0, 0, 0), MUCH - 1);
+        due.is("9 just above much, in turns", Due.with("times 1000*1000+1 { spend 999*1000+999; }").spends(0, 0, 0, 0, 0), MUCH);
         due.is("9 much in no turns", Due.with("times b { spend double a; }").spends(0, 1000, 0, 0, 0), 0);
         due.is("9 all thousands", Due.with("spend a*b*c*d;").spends(0, 1000, 1000, 1000, 999), 999000000000L);
     }
