@@ -169,7 +169,7 @@ public final class UsedUp {
     }
 
     public int cheapest(int sort, long s) {
-        if (!isSort(sort) || s < 0) {
+        if (!isSort(sort)) {
             return refuse(BAD_NUMBER);
         }
         if (!hasProgram) {

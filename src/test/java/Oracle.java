@@ -404,7 +404,7 @@ final class Oracle {
     }
 
     int cheapest(int sort, long s) {
-        if (sort < 0 || sort > 1 || s < 0) {
+        if (sort < 0 || sort > 1) {
             return status = -1;
         }
         int[] best = null;

@@ -466,9 +466,16 @@ public final class PromiseTest {
         latest(x, "11 nothing", 0, 0, 0, 0);
         due.is("11 sort", x.cheapest(2, 0), -1);
         due.is("11 sort below", x.cheapest(-1, 0), -1);
-        due.is("11 below 0", x.cheapest(0, -1), -1);
-        due.is("11 far below 0", x.cheapest(0, Long.MIN_VALUE), -1);
         due.is("11 refused", x.status(), -1);
+        // Each ASK brings at least what is below 0, so the lightest, first one of all is meant.
+        x.worst(0, 100);
+        due.is("11 below 0", x.cheapest(0, -1), 0);
+        due.is("11 below 0 is not refused", x.status(), 0);
+        latest(x, "11 below 0", 0, 0, 0, 0);
+        x.worst(1, 100);
+        due.is("11 far below 0", x.cheapest(1, Long.MIN_VALUE), 0);
+        latest(x, "11 far below 0", 0, 0, 0, 0);
+        due.is("11 below 0, but the sort first", x.cheapest(2, -1), -1);
         due.is("11 far above", x.cheapest(0, Long.MAX_VALUE), -6);
         UsedUp y = Due.with("spend a+b+c;");
         due.is("11 alike", y.cheapest(0, 3), 3);
@@ -484,6 +491,10 @@ public final class PromiseTest {
         UsedUp none = new UsedUp();
         due.is("11 none, but the number first", none.cheapest(7, 0), -1);
         due.is("11 none", none.cheapest(0, 0), -6);
+        due.is("11 none, below 0", none.cheapest(0, -4294967296L), -6);
+        due.is("11 none, below 0, status", none.status(), -6);
+        due.is("11 none, far below 0", none.cheapest(1, Long.MIN_VALUE), -6);
+        due.is("11 none kept", none.ask(0), -1);
     }
 
     private static void promise12() {
