@@ -21,11 +21,41 @@ final class Due {
         return wrong > 0;
     }
 
+    /** An exception that nobody catches ends the test with exit code 1; Mutants catches it. */
     void finish() {
         System.out.println(asked + " answers looked at, " + wrong + " not as due");
         if (wrong > 0) {
-            System.exit(1);
+            throw new Failed(wrong);
         }
+    }
+
+    static final class Failed extends RuntimeException {
+        private static final long serialVersionUID = 1L;
+
+        Failed(int wrong) {
+            super(wrong + " answers are not as due", null, false, false);
+        }
+    }
+
+    void latest(String what, UsedUp x, int a, int b, int c, int d) {
+        is(what + ": its a", x.ask(0), a);
+        is(what + ": its b", x.ask(1), b);
+        is(what + ": its c", x.ask(2), c);
+        is(what + ": its d", x.ask(3), d);
+    }
+
+    void good(String text) {
+        UsedUp x = new UsedUp();
+        that("program of " + text, program(x, text) >= 0);
+        is("status of " + text, x.status(), 0);
+        is("fault of " + text, x.fault(), -1);
+    }
+
+    void faultAt(String text, int place) {
+        UsedUp x = new UsedUp();
+        is("program of " + text, program(x, text), -6);
+        is("status of " + text, x.status(), -6);
+        is("fault of " + text, x.fault(), place);
     }
 
     /** The numbers that feed() takes for a text, five for each twenty bytes of it, blanks behind. */
