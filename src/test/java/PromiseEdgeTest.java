@@ -585,6 +585,15 @@ public final class PromiseEdgeTest {
         due.is("no CAP is left", x.capped(0), -1);
         due.is("a bound just broken", x.budgets(9), 1);
         due.is("the greatest bound", x.budgets(Long.MAX_VALUE), 0);
+        // Bounds that would be 0, 9 or below 0, were they cut to 32 bits.
+        for (long bound : new long[] {4294967296L, 4294967305L, 6442450944L, MUCH, MUCH + 1}) {
+            due.is("a bound of " + bound, x.budgets(bound), 0);
+            due.is("no CAP for " + bound, x.count(3), 0);
+        }
+        UsedUp far = Due.with("times 1000*1000*1000*a{spend 0;}times b{spend 0;}");
+        far.name(1, 0, 1);
+        due.is("a bound that is far, just kept", far.budgets(5000000000L), 0);
+        due.is("a bound that is far, just broken", far.budgets(4999999999L), 1);
         UsedUp y = Due.with("spend 1000*1000*1000*1000*1000;");
         due.is("MUCH within MUCH", y.budgets(MUCH), 0);
         due.is("MUCH above less", y.budgets(MUCH - 1), -6);
