@@ -1,5 +1,4 @@
 import java.io.IOException;
-import java.io.StringWriter;
 import java.lang.invoke.MethodHandles;
 import java.lang.reflect.Method;
 import java.lang.reflect.Modifier;
@@ -13,9 +12,6 @@ import java.util.TreeSet;
 import java.util.regex.Matcher;
 import java.util.regex.Pattern;
 import java.util.stream.Stream;
-import javax.tools.JavaCompiler;
-import javax.tools.StandardJavaFileManager;
-import javax.tools.ToolProvider;
 
 /**
  * What README.md says of the class's use is so: its Java is compiled as it stands there, and each line
@@ -108,13 +104,10 @@ public final class ReadmeTest {
         try {
             Path source = folder.resolve("Shown.java");
             Files.writeString(source, built);
-            JavaCompiler compiler = ToolProvider.getSystemJavaCompiler();
-            StringWriter said = new StringWriter();
-            boolean compiled;
-            try (StandardJavaFileManager files = compiler.getStandardFileManager(null, null, null)) {
-                List<String> options = List.of("-d", folder.toString(), "-cp", System.getProperty("java.class.path"));
-                compiled = compiler.getTask(said, files, null, options, null, files.getJavaFileObjects(source)).call();
-            }
+            Process javac = new ProcessBuilder("javac", "--release", "17", "-d", folder.toString(),
+                "-cp", System.getProperty("java.class.path"), source.toString()).redirectErrorStream(true).start();
+            String said = new String(javac.getInputStream().readAllBytes());
+            boolean compiled = javac.waitFor() == 0;
             due.that("what README.md shows compiles: " + said, compiled);
             if (compiled) {
                 call(folder);
